@@ -1,0 +1,117 @@
+import java.io.IOException;
+import java.lang.reflect.Constructor;
+import java.lang.reflect.Field;
+import java.lang.reflect.Member;
+import java.lang.reflect.Method;
+import java.lang.reflect.Modifier;
+import java.nio.file.Files;
+import java.nio.file.Path;
+import java.util.Arrays;
+import java.util.Set;
+import java.util.TreeSet;
+
+/** The class has the document's face and no other, and keeps to what LANGUAGE.md rules of its form. */
+public final class FaceTest {
+    private static final Checks C = new Checks("FaceTest");
+    private static final Set<String> FACE = new TreeSet<>(Arrays.asList(
+            "corner(int,int):int", "polygon():int", "forget():int", "takeAway(int):int", "vehicle(int,int):void",
+            "cusp(int):int", "margin(int):int", "clearance(int,int):int", "isFree(int,int,int):boolean",
+            "word(int,int,int,int,int,int):int", "found(int):int", "cheapest(int,int,int,int,int,int,boolean):int",
+            "cheapestAnew(int,int,int,int,int,int,boolean):int", "plan(int,int,int,int,int,int,boolean):int",
+            "begin(int,int,int):void", "drive(int):int", "keep():int", "shorten(int):int", "planOf(int,int):int",
+            "moveOf(int,int):int", "poseOf(int,int):int", "segment(int,int):int", "speeds(int,int,int,int):void",
+            "speed(int,int):float", "peak(int):int"));
+    private static final Set<String> CONSTANTS = new TreeSet<>(Arrays.asList("NONE", "STRAIGHT", "LEFT", "RIGHT", "BACK",
+            "BACK_LEFT", "BACK_RIGHT"));
+
+    public static void main(String[] args) throws IOException {
+        methods();
+        fields();
+        constructors();
+        classesInside();
+        source();
+        C.end();
+    }
+
+    private static String told(Method method) {
+        StringBuilder text = new StringBuilder(method.getName()).append('(');
+        for (Class<?> type : method.getParameterTypes()) {
+            text.append(text.charAt(text.length() - 1) == '(' ? "" : ",").append(type.getName());
+        }
+        return text.append("):").append(method.getReturnType().getName()).toString();
+    }
+
+    private static boolean isPrivate(Member member) {
+        return Modifier.isPrivate(member.getModifiers()) || member.isSynthetic();
+    }
+
+    private static void methods() {
+        Set<String> seen = new TreeSet<>();
+        for (Method method : Swervewright.class.getDeclaredMethods()) {
+            if (!isPrivate(method)) {
+                C.dueTrue(method + " is public and no constant of the class", method.getModifiers() == Modifier.PUBLIC);
+                seen.add(told(method));
+            }
+        }
+        C.dueTrue("methods " + seen + ", due are " + FACE, seen.equals(FACE));
+    }
+
+    private static void fields() {
+        Set<String> seen = new TreeSet<>();
+        for (Field field : Swervewright.class.getDeclaredFields()) {
+            int modifiers = field.getModifiers();
+            C.dueTrue(field + " is final if it is static", !Modifier.isStatic(modifiers) || Modifier.isFinal(modifiers));
+            if (!isPrivate(field)) {
+                C.dueTrue(field + " is a constant", Modifier.isPublic(modifiers) && Modifier.isStatic(modifiers));
+                C.dueTrue(field + " is an int", field.getType() == int.class);
+                seen.add(field.getName());
+            }
+        }
+        C.dueTrue("constants " + seen + ", due are " + CONSTANTS, seen.equals(CONSTANTS));
+    }
+
+    private static void constructors() {
+        Constructor<?>[] all = Swervewright.class.getDeclaredConstructors();
+        C.due("constructors", all.length, 1);
+        C.dueTrue("public, without parameters", Modifier.isPublic(all[0].getModifiers()) && all[0].getParameterCount() == 0);
+        C.dueTrue("final class", Modifier.isFinal(Swervewright.class.getModifiers()));
+        C.dueTrue("without a package", Swervewright.class.getPackageName().isEmpty());
+    }
+
+    private static void classesInside() {
+        Set<String> publicNames = new TreeSet<>();
+        for (String method : FACE) {
+            publicNames.add(method.substring(0, method.indexOf('(')));
+        }
+        Class<?>[] inside = Swervewright.class.getDeclaredClasses();
+        C.dueTrue("some twelve classes", inside.length < 12);
+        for (Class<?> type : inside) {
+            int modifiers = type.getModifiers();
+            C.dueTrue(type + " is private and static", Modifier.isPrivate(modifiers) && Modifier.isStatic(modifiers));
+            for (Method method : type.getDeclaredMethods()) {
+                C.dueTrue(method + " has a name of its own", !publicNames.contains(method.getName()));
+                C.dueTrue(method + " has at most seven parameters", method.getParameterCount() <= 7);
+            }
+            for (Field field : type.getDeclaredFields()) {
+                boolean isFinal = Modifier.isFinal(field.getModifiers());
+                C.dueTrue(field + " is final if it is static", !Modifier.isStatic(field.getModifiers()) || isFinal);
+            }
+        }
+    }
+
+    private static void source() throws IOException {
+        String source = Files.readString(Path.of("src/main/java/Swervewright.java"));
+        for (String word : new String[] {"catch", "finally", "synchronized", "assert", "Object", "->", "::", "System.", "Random",
+            "Exact(", "static {"}) {
+            C.dueTrue("the source does without " + word, !source.contains(word));
+        }
+        for (String line : source.split("\n")) {
+            C.dueTrue("imports: " + line, !line.startsWith("import") || line.equals("import java.util.Arrays;"));
+        }
+        for (char sign : source.toCharArray()) {
+            if (sign > 126) {
+                C.dueTrue("plain signs, not " + (int) sign, false);
+            }
+        }
+    }
+}
