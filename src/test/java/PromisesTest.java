@@ -25,12 +25,14 @@ public final class PromisesTest {
         cheapestAmongObstacles();
         promise15();
         lowestMovesFirst();
+        longPlans();
         promise16();
         promise17();
         movesThatCannotBeDriven();
         promise18();
         promise19();
         shorteningWithCusps();
+        shorteningByOne();
         shorteningRefusals();
         promise20();
         promise21();
@@ -435,6 +437,10 @@ public final class PromisesTest {
         x.takeAway(1);
         x.takeAway(0);
         way(x, "13: free again", new int[] {3, 8, 0, 12, 8, 0}, false, 90);
+        x.vehicle(0, 0);
+        way(x, "13: into the corner in reverse", new int[] {5, 0, 0, 0, 0, 0}, true, 50);
+        way(x, "13: out of it", new int[] {0, 0, 0, 5, 0, 0}, false, 50);
+        way(x, "13: into the other corner", new int[] {10, 15, 0, 15, 15, 0}, false, 50);
     }
 
     // ---- plans
@@ -475,6 +481,36 @@ public final class PromisesTest {
         x.cusp(20);
         enumerated(x, 8, 8, 0, 3, 10, 0);
         enumerated(x, 8, 8, 0, 9, 8, 7);
+    }
+
+    /** Eight lanes between walls with a gap at one end each: on ahead, through the gap, back in reverse, and so on. */
+    private static void longPlans() {
+        Swervewright x = new Swervewright();
+        x.vehicle(0, 0);
+        for (int wall = 0; wall < 7; wall++) {
+            int left = wall % 2 == 0 ? 0 : 3;
+            int y = 2 * wall + 1;
+            polygon(x, left, y, left + 13, y, left + 13, y + 1, left, y + 1);
+        }
+        int plan = x.plan(0, 0, 0, 0, 14, 0, true);
+        int count = 7 * 13 + 15;
+        C.due("15: a long way", x.planOf(plan, 0), count);
+        C.due("15: in even headings, but for two arcs a gap", x.planOf(plan, 1), (count - 14) * 10 + 14 * 24 + 7 * 20);
+        C.due("15: as cheap as anew", x.cheapestAnew(0, 0, 0, 0, 14, 0, true), x.planOf(plan, 1));
+        C.due("15: its cusps", x.planOf(plan, 2), 7);
+        C.due("15: it can be driven", x.planOf(plan, 4), 1);
+        C.due("22: its end", x.poseOf(plan, count), pose(0, 14, 0));
+        C.dueFloat("25: far along", x.speed(plan, count - 1), 6.0f);
+        C.dueFloat("25: at its end", x.speed(plan, count), 0.0f);
+        C.due("19: the cheapest way cannot get shorter", x.shorten(plan), 0);
+        for (int wall = 0; wall < 7; wall++) {
+            x.takeAway(wall);
+        }
+        int before = x.planOf(plan, 1);
+        int saved = x.shorten(plan);
+        C.due("19: without walls it gets so", x.planOf(plan, 1), before - saved);
+        C.dueTrue("19: by much", saved > before / 2);
+        C.due("19: to the same end", x.poseOf(plan, x.planOf(plan, 0)), pose(0, 14, 0));
     }
 
     /** Less than 60 takes five moves at most: the first one in order of all rows of five or fewer that cost least. */
@@ -667,6 +703,19 @@ public final class PromisesTest {
         x.shorten(goesOn);
         C.due("19: its end stays", x.poseOf(goesOn, x.planOf(goesOn, 0)), pose(12, 8, 0));
         C.due("19: straight", x.planOf(goesOn, 1), 90);
+    }
+
+    /** Six lefts and two straight moves cost 164; two arcs and two straight moves 68 and a cusp. */
+    private static void shorteningByOne() {
+        Swervewright x = new Swervewright();
+        x.vehicle(0, 0);
+        int plan = drive(x, 8, 8, 0, 4, 4, 0, 0);
+        x.cusp(96);
+        C.due("19: as much is not less", x.shorten(plan), 0);
+        moves("19: so it stays", x, plan, 4, 4, 0, 0);
+        x.cusp(97);
+        C.due("19: one less is", x.shorten(plan), 1);
+        moves("19: so it goes", x, plan, 1, 1, 1, 1, 1, 1, 0, 0);
     }
 
     private static void shorteningRefusals() {

@@ -38,6 +38,7 @@ public final class RandomRunsTest {
             readPlans();
             walks();
         }
+        lanes();
         checks.end();
     }
 
@@ -257,6 +258,32 @@ public final class RandomRunsTest {
             }
             same("keep()", () -> it.keep(), () -> model.keep());
         }
+        readPlans();
+    }
+
+    /** A plan of a hundred moves between walls, that is shortened when some of them, and then all, are away. */
+    private void lanes() {
+        it = new Swervewright();
+        model = new Model();
+        sameDone("vehicle(0, 0)", () -> it.vehicle(0, 0), () -> model.vehicle(0, 0));
+        for (int wall = 0; wall < 7; wall++) {
+            int left = wall % 2 == 0 ? 0 : 3;
+            int y = 2 * wall + 1;
+            int[][] corners = {{left, y}, {left + 13, y}, {left + 13, y + 1}, {left, y + 1}};
+            for (int[] c : corners) {
+                same("corner(" + c[0] + ", " + c[1] + ")", () -> it.corner(c[0], c[1]), () -> model.corner(c[0], c[1]));
+            }
+            same("polygon()", () -> it.polygon(), () -> model.polygon());
+        }
+        same("plan of lanes", () -> it.plan(0, 0, 0, 0, 14, 0, true), () -> model.plan(0, 0, 0, 0, 14, 0, true));
+        readPlan(0);
+        for (int wall = 0; wall < 3; wall++) {
+            int polygon = wall * 2 + 1;
+            same("takeAway(" + polygon + ")", () -> it.takeAway(polygon), () -> model.takeAway(polygon));
+        }
+        same("shorten lanes", () -> it.shorten(0), () -> model.shorten(0));
+        readPlan(0);
+        clearField();
         readPlans();
     }
 
