@@ -1005,8 +1005,10 @@ public final class Swervewright {
             int lastTurn = Lattice.turnOf(thirdMove(tried));
             int along = heading + turn * before;
             int behind = arcsBetween(along, Lattice.headingOf(to), lastTurn);
-            int x = Lattice.xOf(to) - Lattice.xOf(from) - arcs.x(heading, turn, before) - arcs.x(along, lastTurn, behind);
-            int y = Lattice.yOf(to) - Lattice.yOf(from) - arcs.y(heading, turn, before) - arcs.y(along, lastTurn, behind);
+            int x = Lattice.xOf(to) - Lattice.xOf(from)
+                    - arcs.x(heading, turn, before) - arcs.x(along, lastTurn, behind);
+            int y = Lattice.yOf(to) - Lattice.yOf(from)
+                    - arcs.y(heading, turn, before) - arcs.y(along, lastTurn, behind);
             int steps = Math.max(Math.abs(x), Math.abs(y));
             if (steps <= MOST_STRAIGHTS && x == steps * Lattice.stepX(along) && y == steps * Lattice.stepY(along)) {
                 int stepsCost = steps * Lattice.stepsCost(along, STRAIGHT);
