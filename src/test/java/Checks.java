@@ -1,3 +1,7 @@
+import java.util.ArrayList;
+import java.util.Arrays;
+import java.util.List;
+
 /** Counts answers that are not as due, and tells them. */
 final class Checks {
     /** A call whose exception, or whose having none, is looked at. */
@@ -6,11 +10,47 @@ final class Checks {
     }
 
     private final String title;
+    private final List<String> quoted = new ArrayList<>();
+    private String under = "";
     private int looked;
     private int wrong;
 
     Checks(String title) {
         this.title = title;
+    }
+
+    /** Begins the test of a sentence, which must stand in the document: under "Terms", or in the promise of a number. */
+    void sentence(String section, String text) {
+        under = section + ", \"" + text + "\": ";
+        quoted.add(section + " " + text);
+        dueTrue("that it stands in the document", Doc.has(section, text));
+    }
+
+    void sentence(int promise, String text) {
+        sentence(String.valueOf(promise), text);
+    }
+
+    /** Each sentence of a section must have had a test, but for those that begin with a text that asks for none. */
+    void allQuoted(String section, String... askForNone) {
+        under = "";
+        for (String sentence : Doc.sentences(section)) {
+            boolean isFree = Arrays.stream(askForNone).anyMatch(sentence::startsWith);
+            dueTrue(section + ", \"" + sentence + "\" has a test", isFree || hasQuoteOf(section, sentence));
+        }
+    }
+
+    private boolean hasQuoteOf(String section, String sentence) {
+        String start = section + " ";
+        for (String quote : quoted) {
+            if (quote.startsWith(start) && isPart(quote.substring(start.length()), sentence)) {
+                return true;
+            }
+        }
+        return false;
+    }
+
+    private static boolean isPart(String quote, String sentence) {
+        return sentence.contains(quote) || quote.contains(sentence);
     }
 
     void due(String what, long got, long want) {
@@ -31,11 +71,30 @@ final class Checks {
         due(what, got ? 1 : 0, want ? 1 : 0);
     }
 
+    void dueText(String what, String got, String want) {
+        looked++;
+        if (!got.equals(want)) {
+            tell(what + " answered " + got + ", due is " + want);
+        }
+    }
+
     void dueTrue(String what, boolean holds) {
         looked++;
         if (!holds) {
             tell(what + " does not hold");
         }
+    }
+
+    void moves(String what, Swervewright x, int plan, int... want) {
+        dueText(what + ", its moves", Arrays.toString(Calls.movesOf(x, plan)), Arrays.toString(want));
+    }
+
+    /** The squares of the speeds at all poses of a plan. */
+    void squares(String what, Swervewright x, int plan, float... want) {
+        for (int at = 0; at < want.length; at++) {
+            dueFloat(what + ", speed at " + at, x.speed(plan, at), want[at]);
+        }
+        index(what + ", speed behind the last pose", () -> x.speed(plan, want.length));
     }
 
     void index(String what, Call call) {
@@ -50,7 +109,7 @@ final class Checks {
         thrown(what, IllegalStateException.class, call);
     }
 
-    private void thrown(String what, Class<?> want, Call call) {
+    void thrown(String what, Class<?> want, Call call) {
         looked++;
         Class<?> got = null;
         try {
@@ -66,7 +125,7 @@ final class Checks {
     void tell(String text) {
         wrong++;
         if (wrong <= 30) {
-            System.out.println(title + ": " + text);
+            System.out.println(title + ": " + under + text);
         }
     }
 

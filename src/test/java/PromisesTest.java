@@ -46,42 +46,6 @@ public final class PromisesTest {
         C.end();
     }
 
-    // ---- what the tests share
-
-    private static int polygon(Swervewright x, int... xy) {
-        for (int i = 0; i < xy.length; i += 2) {
-            x.corner(xy[i], xy[i + 1]);
-        }
-        return x.polygon();
-    }
-
-    private static int drive(Swervewright x, int fromX, int fromY, int heading, int... moves) {
-        x.begin(fromX, fromY, heading);
-        for (int move : moves) {
-            x.drive(move);
-        }
-        return x.keep();
-    }
-
-    private static void moves(String what, Swervewright x, int plan, int... want) {
-        int[] got = new int[x.planOf(plan, 0)];
-        for (int i = 0; i < got.length; i++) {
-            got[i] = x.moveOf(plan, i);
-        }
-        C.dueTrue(what + ": moves " + Arrays.toString(got) + ", due are " + Arrays.toString(want), Arrays.equals(got, want));
-    }
-
-    private static void squares(String what, Swervewright x, int plan, float... want) {
-        for (int i = 0; i < want.length; i++) {
-            C.dueFloat(what + ": speed at " + i, x.speed(plan, i), want[i]);
-        }
-        C.index(what + ": speed behind the last pose", () -> x.speed(plan, want.length));
-    }
-
-    private static int pose(int x, int y, int heading) {
-        return 1000 * heading + 16 * y + x;
-    }
-
     // ---- field, vehicle
 
     private static void promise1() {
@@ -95,7 +59,7 @@ public final class PromisesTest {
         C.due("1: the margin", x.margin(0), 0);
         C.state("1: nothing is recorded", () -> x.drive(0));
         Swervewright other = new Swervewright();
-        polygon(x, 0, 0, 16, 0, 16, 16, 0, 16);
+        Calls.polygon(x, 0, 0, 16, 0, 16, 16, 0, 16);
         C.due("1: objects share nothing", other.clearance(8, 8), 16);
     }
 
@@ -128,7 +92,7 @@ public final class PromisesTest {
         C.due("3: there are none then", x.forget(), 0);
         C.due("3: a cell is blocked", x.clearance(3, 1), 0);
         for (int number = 1; number < 8; number++) {
-            C.due("3: numbers", polygon(x, 0, 0, 1, 0, 1, 1, 0, 1, 0, 0, 0, 1), number);
+            C.due("3: numbers", Calls.polygon(x, 0, 0, 1, 0, 1, 1, 0, 1, 0, 0, 0, 1), number);
         }
         for (int corner = 0; corner < 3; corner++) {
             x.corner(8 + corner, 8 + corner * corner);
@@ -136,7 +100,7 @@ public final class PromisesTest {
         C.state("3: a ninth", () -> x.polygon());
         C.due("3: its corners are still told", x.forget(), 3);
         x.takeAway(0);
-        C.state("3: nor in place of one taken away", () -> polygon(x, 8, 8, 10, 8, 10, 10));
+        C.state("3: nor in place of one taken away", () -> Calls.polygon(x, 8, 8, 10, 8, 10, 10));
         C.due("3: nothing is blocked by that", x.clearance(9, 8), 9);
     }
 
@@ -156,9 +120,9 @@ public final class PromisesTest {
 
     private static void promise5() {
         Swervewright x = new Swervewright();
-        polygon(x, 2, 2, 6, 2, 6, 6, 2, 6);
-        polygon(x, 4, 4, 8, 4, 8, 8, 4, 8);
-        polygon(x, 5, 5, 6, 5, 6, 6, 5, 6);
+        Calls.polygon(x, 2, 2, 6, 2, 6, 6, 2, 6);
+        Calls.polygon(x, 4, 4, 8, 4, 8, 8, 4, 8);
+        Calls.polygon(x, 5, 5, 6, 5, 6, 6, 5, 6);
         C.index("5: below", () -> x.takeAway(-1));
         C.index("5: above", () -> x.takeAway(3));
         C.index("5: far out", () -> x.takeAway(MAX));
@@ -168,7 +132,7 @@ public final class PromisesTest {
         C.due("5: a cell of one", x.clearance(3, 3), 1);
         C.state("5: again", () -> x.takeAway(0));
         C.due("5: nothing changed", x.clearance(5, 5), 0);
-        C.due("5: its number is not given again", polygon(x, 0, 0, 1, 1, 0, 1), 3);
+        C.due("5: its number is not given again", Calls.polygon(x, 0, 0, 1, 1, 0, 1), 3);
         C.due("5: a polygon of no cell", x.takeAway(3), 0);
         C.due("5: the last one", x.takeAway(1), 16);
         C.due("5: nothing is blocked", x.clearance(5, 5), 16);
@@ -178,7 +142,7 @@ public final class PromisesTest {
     /** Middles on a side are not crossed there; a line that crosses itself blocks by odd and even. */
     private static void blockedCells() {
         Swervewright x = new Swervewright();
-        polygon(x, 0, 0, 16, 0, 0, 16);
+        Calls.polygon(x, 0, 0, 16, 0, 0, 16);
         int blocked = 0;
         for (int cx = 0; cx < 16; cx++) {
             for (int cy = 0; cy < 16; cy++) {
@@ -189,18 +153,18 @@ public final class PromisesTest {
         }
         C.due("3: cells in all", blocked, 120);
         x.takeAway(0);
-        polygon(x, 16, 0, 16, 16, 0, 16);
+        Calls.polygon(x, 16, 0, 16, 16, 0, 16);
         C.due("3: a side through the middle to the left blocks", x.clearance(8, 7), 0);
         C.due("3: a cell left of it is not", x.clearance(7, 7), 1);
         x.takeAway(1);
-        polygon(x, 2, 2, 14, 2, 2, 14, 14, 14);
+        Calls.polygon(x, 2, 2, 14, 2, 2, 14, 14, 14);
         C.due("3: the upper half of an hourglass", x.clearance(8, 4), 0);
         C.due("3: the lower half", x.clearance(8, 12), 0);
         C.due("3: its side", x.clearance(3, 8), 2);
         x.takeAway(2);
-        polygon(x, 0, 5, 16, 5, 3, 5, 9, 5);
+        Calls.polygon(x, 0, 5, 16, 5, 3, 5, 9, 5);
         C.due("3: level sides alone block nothing", x.takeAway(3), 0);
-        polygon(x, 1, 0, 3, 3, 0, 3);
+        Calls.polygon(x, 1, 0, 3, 3, 0, 3);
         C.due("3: a slanted side left of a middle", x.clearance(0, 0), 1);
         C.due("3: and one right of it", x.clearance(1, 1), 0);
     }
@@ -229,7 +193,7 @@ public final class PromisesTest {
 
     private static void promise7() {
         Swervewright x = new Swervewright();
-        int plan = drive(x, 8, 8, 0, 0, 3);
+        int plan = Calls.drive(x, 8, 8, 0, 0, 3);
         C.due("7: at first", x.planOf(plan, 1), 40);
         C.due("7: what it was", x.cusp(100), 20);
         C.due("7: costs now", x.planOf(plan, 1), 120);
@@ -242,8 +206,8 @@ public final class PromisesTest {
 
     private static void promise8() {
         Swervewright x = new Swervewright();
-        polygon(x, 8, 0, 9, 0, 9, 1, 8, 1);
-        int plan = drive(x, 8, 8, 6, 0, 0, 0, 0);
+        Calls.polygon(x, 8, 0, 9, 0, 9, 1, 8, 1);
+        int plan = Calls.drive(x, 8, 8, 6, 0, 0, 0, 0);
         C.due("8: none at first", x.planOf(plan, 1), 40);
         C.due("8: what it was", x.margin(5), 0);
         C.due("8: 5 for each cell too near, at ends alone", x.planOf(plan, 1), 45);
@@ -251,28 +215,28 @@ public final class PromisesTest {
         C.argument("8: below", () -> x.margin(-1));
         C.due("8: nothing changed", x.margin(4), 5);
         C.due("8: the margin itself is far enough", x.planOf(plan, 1), 40);
-        int arcs = drive(x, 5, 4, 0, 1);
+        int arcs = Calls.drive(x, 5, 4, 0, 1);
         C.due("8: an arc pays at its end, not between", x.planOf(arcs, 1), 24 + 5);
         x.margin(5);
         C.due("8: nearer", x.planOf(arcs, 1), 24 + 10);
         C.due("8: a way pays as well", x.cheapest(5, 4, 0, 7, 3, 7, false), 34);
         C.due("8: anew, too", x.cheapestAnew(5, 4, 0, 7, 3, 7, false), 34);
         C.due("8: words do not", x.word(5, 4, 0, 7, 3, 7), 24);
-        int back = drive(x, 7, 3, 7, 4);
+        int back = Calls.drive(x, 7, 3, 7, 4);
         C.due("8: in reverse the end is the other one", x.planOf(back, 1), 24 + 5 * 1);
     }
 
     private static void promise9() {
         Swervewright x = new Swervewright();
         C.due("9: none is blocked", x.clearance(15, 15), 16);
-        polygon(x, 0, 0, 1, 0, 1, 1, 0, 1);
+        Calls.polygon(x, 0, 0, 1, 0, 1, 1, 0, 1);
         C.due("9: blocked", x.clearance(0, 0), 0);
         C.due("9: beside", x.clearance(1, 0), 1);
         C.due("9: across", x.clearance(1, 1), 1);
         C.due("9: the greater difference", x.clearance(3, 7), 7);
         C.due("9: of both", x.clearance(7, 3), 7);
         C.due("9: the farthest", x.clearance(15, 15), 15);
-        polygon(x, 15, 8, 16, 8, 16, 9, 15, 9);
+        Calls.polygon(x, 15, 8, 16, 8, 16, 9, 15, 9);
         C.due("9: the nearest counts", x.clearance(12, 12), 4);
         C.index("9: x below", () -> x.clearance(-1, 0));
         C.index("9: x above", () -> x.clearance(16, 0));
@@ -283,7 +247,7 @@ public final class PromisesTest {
 
     private static void promise10() {
         Swervewright x = new Swervewright();
-        polygon(x, 8, 8, 9, 8, 9, 9, 8, 9);
+        Calls.polygon(x, 8, 8, 9, 8, 9, 9, 8, 9);
         int[][] before = {{7, 8, 0}, {7, 7, 1}, {8, 7, 2}, {9, 7, 3}, {9, 8, 4}, {9, 9, 5}, {8, 9, 6}, {7, 9, 7}};
         for (int[] p : before) {
             for (int heading = 0; heading < 8; heading++) {
@@ -311,7 +275,7 @@ public final class PromisesTest {
 
     private static void promise11() {
         Swervewright x = new Swervewright();
-        polygon(x, 0, 0, 16, 0, 16, 16, 0, 16);
+        Calls.polygon(x, 0, 0, 16, 0, 16, 16, 0, 16);
         C.due("11: to itself", x.word(2, 2, 3, 2, 2, 3), 0);
         C.due("11: straight, even", x.word(0, 9, 0, 15, 9, 0), 150);
         C.due("11: straight, odd", x.word(0, 0, 1, 15, 15, 1), 210);
@@ -346,20 +310,20 @@ public final class PromisesTest {
         word(x, new int[] {4, 8, 0, 8, 12, 2}, 62, 1, 1, 1, 1);
         word(x, new int[] {4, 8, 0, 9, 5, 0}, 62, 2, 1, 1, 1);
         word(x, new int[] {4, 8, 0, 9, 11, 0}, 62, 3, 1, 1, 1);
-        arcsAlone(x);
+        arcsAlone();
     }
 
-    private static void arcsAlone(Swervewright x) {
+    /** An object for each heading and row, since one is used for 512 calls at most. */
+    private static void arcsAlone() {
         int kinds = 0;
-        for (int toX = 0; toX < 16; toX++) {
-            for (int toY = 0; toY < 16; toY++) {
-                for (int heading = 0; heading < 8; heading++) {
-                    int cost = x.word(8, 8, 0, toX, toY, heading);
-                    int kind = x.found(0);
-                    kinds |= kind >= 4 ? 1 << kind : 0;
-                    if (kind >= 4) {
-                        C.due("11: arcs alone cost 24 each", cost, 24 * (x.found(1) + x.found(2) + x.found(3)));
-                    }
+        for (int row = 0; row < 128; row++) {
+            Swervewright x = new Swervewright();
+            for (int toX = 0; toX < 16; toX++) {
+                int cost = x.word(8, 8, 0, toX, row % 16, row / 16);
+                int kind = x.found(0);
+                kinds |= kind >= 4 ? 1 << kind : 0;
+                if (kind >= 4) {
+                    C.due("11: arcs alone cost 24 each", cost, 24 * (x.found(1) + x.found(2) + x.found(3)));
                 }
             }
         }
@@ -378,7 +342,7 @@ public final class PromisesTest {
         C.due("12: its third part", x.found(3), 6);
         C.index("12: a call that throws", () -> x.word(5, 5, 0, 5, 5, 8));
         C.due("12: changes nothing", x.found(1), 6);
-        x.shorten(drive(x, 3, 8, 0, 0, 0, 0));
+        x.shorten(Calls.drive(x, 3, 8, 0, 0, 0, 0));
         C.due("12: nor does shortening", x.found(3), 6);
         x.word(0, 0, 0, 15, 7, 0);
         for (int what = 0; what < 4; what++) {
@@ -422,7 +386,7 @@ public final class PromisesTest {
 
     private static void cheapestAmongObstacles() {
         Swervewright x = new Swervewright();
-        polygon(x, 7, 2, 9, 2, 9, 14, 7, 14);
+        Calls.polygon(x, 7, 2, 9, 2, 9, 14, 7, 14);
         way(x, "13: round a wall, forward", new int[] {3, 8, 0, 12, 8, 0}, false, Swervewright.NONE);
         way(x, "13: round a wall", new int[] {3, 8, 0, 12, 8, 0}, true, 262);
         x.margin(3);
@@ -432,7 +396,7 @@ public final class PromisesTest {
         int cheap = x.cheapest(3, 8, 0, 12, 8, 0, true);
         C.dueTrue("13: cusps cost", cheap <= 262 - 20);
         C.due("14: the same from the other end", x.cheapestAnew(3, 8, 0, 12, 8, 0, true), cheap);
-        polygon(x, 7, 0, 9, 0, 9, 16, 7, 16);
+        Calls.polygon(x, 7, 0, 9, 0, 9, 16, 7, 16);
         way(x, "13: no way through", new int[] {3, 8, 0, 12, 8, 0}, true, Swervewright.NONE);
         x.takeAway(1);
         x.takeAway(0);
@@ -448,17 +412,17 @@ public final class PromisesTest {
     private static void promise15() {
         Swervewright x = new Swervewright();
         C.due("15: the first number", x.plan(9, 2, 0, 2, 2, 0, true), 0);
-        moves("15: in reverse", x, 0, 3, 3, 3, 3, 3, 3, 3);
+        C.moves("15: in reverse", x, 0, 3, 3, 3, 3, 3, 3, 3);
         C.state("15: no way", () -> x.plan(0, 8, 0, 9, 8, 0, true));
         C.state("15: no way forward", () -> x.plan(14, 8, 0, 1, 8, 0, false));
         C.index("15: no such cell", () -> x.plan(16, 8, 0, 9, 8, 0, false));
         C.index("15: no such heading", () -> x.plan(1, 8, 0, 9, 8, 8, false));
         C.due("15: the next number", x.plan(0, 0, 0, 0, 0, 0, false), 1);
-        moves("15: to itself", x, 1);
+        C.moves("15: to itself", x, 1);
         for (int number = 2; number < 12; number++) {
             C.due("15: numbers", x.plan(2, 8, 0, 5, 8, 0, false), number);
         }
-        moves("15: forward", x, 11, 0, 0, 0);
+        C.moves("15: forward", x, 11, 0, 0, 0);
         C.state("15: a thirteenth", () -> x.plan(2, 8, 0, 5, 8, 0, false));
         C.state("15: nor one without moves", () -> x.plan(2, 8, 0, 2, 8, 0, false));
         C.index("15: no such cell goes ahead of too many", () -> x.plan(2, -1, 0, 5, 8, 0, false));
@@ -467,12 +431,12 @@ public final class PromisesTest {
 
     private static void lowestMovesFirst() {
         Swervewright x = new Swervewright();
-        moves("15: straight ahead of arcs", x, x.plan(3, 8, 0, 8, 6, 0, false), 0, 1, 2);
-        moves("15: left ahead of right", x, x.plan(3, 8, 0, 7, 8, 0, false), 0, 0, 0, 0);
-        moves("15: in reverse, lower first", x, x.plan(12, 8, 0, 7, 6, 0, true), 3, 4, 5);
+        C.moves("15: straight ahead of arcs", x, x.plan(3, 8, 0, 8, 6, 0, false), 0, 1, 2);
+        C.moves("15: left ahead of right", x, x.plan(3, 8, 0, 7, 8, 0, false), 0, 0, 0, 0);
+        C.moves("15: in reverse, lower first", x, x.plan(12, 8, 0, 7, 6, 0, true), 3, 4, 5);
         x.cusp(0);
-        moves("15: straight ahead of reverse", x, x.plan(8, 8, 0, 8, 8, 1, true), 0, 4, 0);
-        moves("15: an arc ahead of reverse", x, x.plan(8, 8, 0, 11, 10, 0, true), 2, 1, 3);
+        C.moves("15: straight ahead of reverse", x, x.plan(8, 8, 0, 8, 8, 1, true), 0, 4, 0);
+        C.moves("15: an arc ahead of reverse", x, x.plan(8, 8, 0, 11, 10, 0, true), 2, 1, 3);
         enumerated(x, 8, 8, 0, 11, 6, 0);
         enumerated(x, 8, 8, 1, 8, 9, 1);
         enumerated(x, 8, 8, 1, 7, 8, 1);
@@ -490,7 +454,7 @@ public final class PromisesTest {
         for (int wall = 0; wall < 7; wall++) {
             int left = wall % 2 == 0 ? 0 : 3;
             int y = 2 * wall + 1;
-            polygon(x, left, y, left + 13, y, left + 13, y + 1, left, y + 1);
+            Calls.polygon(x, left, y, left + 13, y, left + 13, y + 1, left, y + 1);
         }
         int plan = x.plan(0, 0, 0, 0, 14, 0, true);
         int count = 7 * 13 + 15;
@@ -499,7 +463,7 @@ public final class PromisesTest {
         C.due("15: as cheap as anew", x.cheapestAnew(0, 0, 0, 0, 14, 0, true), x.planOf(plan, 1));
         C.due("15: its cusps", x.planOf(plan, 2), 7);
         C.due("15: it can be driven", x.planOf(plan, 4), 1);
-        C.due("22: its end", x.poseOf(plan, count), pose(0, 14, 0));
+        C.due("22: its end", x.poseOf(plan, count), Calls.pose(0, 14, 0));
         C.dueFloat("25: far along", x.speed(plan, count - 1), 6.0f);
         C.dueFloat("25: at its end", x.speed(plan, count), 0.0f);
         C.due("19: the cheapest way cannot get shorter", x.shorten(plan), 0);
@@ -510,7 +474,7 @@ public final class PromisesTest {
         int saved = x.shorten(plan);
         C.due("19: without walls it gets so", x.planOf(plan, 1), before - saved);
         C.dueTrue("19: by much", saved > before / 2);
-        C.due("19: to the same end", x.poseOf(plan, x.planOf(plan, 0)), pose(0, 14, 0));
+        C.due("19: to the same end", x.poseOf(plan, x.planOf(plan, 0)), Calls.pose(0, 14, 0));
     }
 
     /** Less than 60 takes five moves at most: the first one in order of all rows of five or fewer that cost least. */
@@ -535,7 +499,7 @@ public final class PromisesTest {
         C.dueTrue(what + " five moves are enough", least < 60);
         C.due(what + ", cost", cost, least);
         C.due(what + ", cheapest", x.cheapest(p[0], p[1], p[2], p[3], p[4], p[5], true), least);
-        moves(what, x, plan, best);
+        C.moves(what, x, plan, best);
     }
 
     private static int[] row(int number, int length) {
@@ -575,7 +539,7 @@ public final class PromisesTest {
         x.begin(5, 5, 2);
         C.due("16: in place of it", x.drive(0), 1);
         x.keep();
-        C.due("16: from there", x.poseOf(0, 0), pose(5, 5, 2));
+        C.due("16: from there", x.poseOf(0, 0), Calls.pose(5, 5, 2));
     }
 
     private static void promise17() {
@@ -595,7 +559,7 @@ public final class PromisesTest {
         C.due("17: its cusps", x.planOf(0, 2), 59);
         x.begin(8, 8, 0);
         x.drive(0);
-        polygon(x, 8, 8, 9, 8, 9, 9, 8, 9);
+        Calls.polygon(x, 8, 8, 9, 8, 9, 9, 8, 9);
         C.state("17: the beginning is not free any more", () -> x.drive(0));
         x.takeAway(0);
         C.due("17: and is again", x.drive(0), 2);
@@ -606,9 +570,9 @@ public final class PromisesTest {
         int[][] ends = {{9, 8, 0}, {10, 7, 7}, {10, 9, 1}, {7, 8, 0}, {6, 7, 1}, {6, 9, 7}};
         for (int move = 0; move < 6; move++) {
             Swervewright x = new Swervewright();
-            int plan = drive(x, 8, 8, 0, move);
+            int plan = Calls.drive(x, 8, 8, 0, move);
             int[] end = ends[move];
-            C.due("17: where move " + move + " leads", x.poseOf(plan, 1), pose(end[0], end[1], end[2]));
+            C.due("17: where move " + move + " leads", x.poseOf(plan, 1), Calls.pose(end[0], end[1], end[2]));
         }
         drivable("between", 0, 0, 9, 8, 1, false);
         drivable("between, far out", 0, 0, 9, 9, 1, true);
@@ -631,7 +595,7 @@ public final class PromisesTest {
         Swervewright x = new Swervewright();
         x.vehicle(front, behind);
         x.begin(8, 8, 0);
-        polygon(x, cellX, cellY, cellX + 1, cellY, cellX + 1, cellY + 1, cellX, cellY + 1);
+        Calls.polygon(x, cellX, cellY, cellX + 1, cellY, cellX + 1, cellY + 1, cellX, cellY + 1);
         if (want) {
             C.due("17: " + what, x.drive(move), 1);
         } else {
@@ -645,14 +609,14 @@ public final class PromisesTest {
         x.begin(3, 3, 0);
         C.due("18: without moves", x.keep(), 0);
         C.due("18: it has none", x.planOf(0, 0), 0);
-        C.due("18: its pose", x.poseOf(0, 0), pose(3, 3, 0));
+        C.due("18: its pose", x.poseOf(0, 0), Calls.pose(3, 3, 0));
         C.state("18: it is recorded no more", () -> x.keep());
         C.state("18: nor driven", () -> x.drive(0));
-        C.due("18: the next number", drive(x, 3, 3, 0, 0, 1), 1);
-        drive(x, 5, 5, 0, 2);
-        moves("18: plans do not change with later drives", x, 1, 0, 1);
+        C.due("18: the next number", Calls.drive(x, 3, 3, 0, 0, 1), 1);
+        Calls.drive(x, 5, 5, 0, 2);
+        C.moves("18: plans do not change with later drives", x, 1, 0, 1);
         for (int number = 3; number < 12; number++) {
-            C.due("18: numbers", drive(x, 3, 3, 0, 0), number);
+            C.due("18: numbers", Calls.drive(x, 3, 3, 0, 0), number);
         }
         x.begin(3, 3, 0);
         x.drive(0);
@@ -662,19 +626,19 @@ public final class PromisesTest {
 
     private static void promise19() {
         Swervewright x = new Swervewright();
-        int plan = drive(x, 3, 8, 0, 0, 1, 2, 2, 1, 0);
+        int plan = Calls.drive(x, 3, 8, 0, 0, 1, 2, 2, 1, 0);
         C.due("19: what it saves", x.shorten(plan), 16);
-        moves("19: a straight one", x, plan, 0, 0, 0, 0, 0, 0, 0, 0, 0, 0);
-        C.due("19: its end", x.poseOf(plan, 10), pose(13, 8, 0));
+        C.moves("19: a straight one", x, plan, 0, 0, 0, 0, 0, 0, 0, 0, 0, 0);
+        C.due("19: its end", x.poseOf(plan, 10), Calls.pose(13, 8, 0));
         C.due("19: nothing is left to save", x.shorten(plan), 0);
-        int loop = drive(x, 5, 8, 0, 0, 3, 0, 0);
+        int loop = Calls.drive(x, 5, 8, 0, 0, 3, 0, 0);
         C.due("19: a word without moves, or a straight one", x.shorten(loop), 60);
-        moves("19: the end stays", x, loop, 0, 0);
-        int round = drive(x, 5, 8, 0, 0, 0, 3, 3);
+        C.moves("19: the end stays", x, loop, 0, 0);
+        int round = Calls.drive(x, 5, 8, 0, 0, 0, 3, 3);
         C.due("19: from a pose to itself", x.shorten(round), 60);
-        moves("19: no move at all", x, round);
-        C.due("19: its pose", x.poseOf(round, 0), pose(5, 8, 0));
-        int one = drive(x, 5, 8, 0, 1);
+        C.moves("19: no move at all", x, round);
+        C.due("19: its pose", x.poseOf(round, 0), Calls.pose(5, 8, 0));
+        int one = Calls.drive(x, 5, 8, 0, 1);
         C.due("19: one move", x.shorten(one), 0);
         C.index("19: no such plan", () -> x.shorten(4));
         C.index("19: no such plan, below", () -> x.shorten(-1));
@@ -683,25 +647,25 @@ public final class PromisesTest {
     /** Words have no moves in reverse, and cusps at both their ends count. */
     private static void shorteningWithCusps() {
         Swervewright x = new Swervewright();
-        int back = drive(x, 12, 8, 0, 3, 3, 3, 3);
+        int back = Calls.drive(x, 12, 8, 0, 3, 3, 3, 3);
         C.due("19: reverse stays", x.shorten(back), 0);
-        moves("19: as it was", x, back, 3, 3, 3, 3);
+        C.moves("19: as it was", x, back, 3, 3, 3, 3);
         // the first pose tries whole stretches first: 3 then 0 0 0 0 comes to three steps ahead
-        int forth = drive(x, 8, 8, 0, 3, 0, 0, 0, 0);
+        int forth = Calls.drive(x, 8, 8, 0, 3, 0, 0, 0, 0);
         C.due("19: back and forth", x.shorten(forth), 10 + 20 + 40 - 30);
-        moves("19: ahead alone", x, forth, 0, 0, 0);
+        C.moves("19: ahead alone", x, forth, 0, 0, 0);
         x.cusp(0);
-        int end = drive(x, 8, 8, 0, 1, 4, 3);
+        int end = Calls.drive(x, 8, 8, 0, 1, 4, 3);
         C.due("19: a loop within", x.shorten(end), 48);
-        moves("19: what is behind it stays", x, end, 3);
+        C.moves("19: what is behind it stays", x, end, 3);
         x.cusp(100);
-        int late = drive(x, 12, 8, 0, 3, 0, 3, 0, 3);
+        int late = Calls.drive(x, 12, 8, 0, 3, 0, 3, 0, 3);
         C.due("19: cusps go", x.shorten(late), 40 + 400);
-        moves("19: one is left", x, late, 3);
+        C.moves("19: one is left", x, late, 3);
         x.cusp(20);
-        int goesOn = drive(x, 3, 8, 0, 1, 2, 2, 1, 3, 0, 0);
+        int goesOn = Calls.drive(x, 3, 8, 0, 1, 2, 2, 1, 3, 0, 0);
         x.shorten(goesOn);
-        C.due("19: its end stays", x.poseOf(goesOn, x.planOf(goesOn, 0)), pose(12, 8, 0));
+        C.due("19: its end stays", x.poseOf(goesOn, x.planOf(goesOn, 0)), Calls.pose(12, 8, 0));
         C.due("19: straight", x.planOf(goesOn, 1), 90);
     }
 
@@ -709,23 +673,23 @@ public final class PromisesTest {
     private static void shorteningByOne() {
         Swervewright x = new Swervewright();
         x.vehicle(0, 0);
-        int plan = drive(x, 8, 8, 0, 4, 4, 0, 0);
+        int plan = Calls.drive(x, 8, 8, 0, 4, 4, 0, 0);
         x.cusp(96);
         C.due("19: as much is not less", x.shorten(plan), 0);
-        moves("19: so it stays", x, plan, 4, 4, 0, 0);
+        C.moves("19: so it stays", x, plan, 4, 4, 0, 0);
         x.cusp(97);
         C.due("19: one less is", x.shorten(plan), 1);
-        moves("19: so it goes", x, plan, 1, 1, 1, 1, 1, 1, 0, 0);
+        C.moves("19: so it goes", x, plan, 1, 1, 1, 1, 1, 1, 0, 0);
     }
 
     private static void shorteningRefusals() {
         Swervewright x = new Swervewright();
-        int plan = drive(x, 3, 8, 0, 0, 1, 2, 2, 1, 0);
-        int wall = polygon(x, 8, 8, 9, 8, 9, 9, 8, 9);
+        int plan = Calls.drive(x, 3, 8, 0, 0, 1, 2, 2, 1, 0);
+        int wall = Calls.polygon(x, 8, 8, 9, 8, 9, 9, 8, 9);
         C.due("19: the word is in the way", x.planOf(plan, 4), 1);
         int saved = x.shorten(plan);
         C.dueTrue("19: it still can be driven", x.planOf(plan, 4) == 1 && saved < 16);
-        polygon(x, 3, 8, 4, 8, 4, 9, 3, 9);
+        Calls.polygon(x, 3, 8, 4, 8, 4, 9, 3, 9);
         int moves = x.planOf(plan, 0);
         C.state("19: it cannot be driven now", () -> x.shorten(plan));
         C.due("19: nothing changed", x.planOf(plan, 0), moves);
@@ -740,17 +704,17 @@ public final class PromisesTest {
 
     private static void promise20() {
         Swervewright x = new Swervewright();
-        int plan = drive(x, 5, 8, 0, 0, 0, 1, 4, 3, 3, 2);
+        int plan = Calls.drive(x, 5, 8, 0, 0, 0, 1, 4, 3, 3, 2);
         int[] want = {7, 152, 2, 5, 1};
         for (int what = 0; what < 5; what++) {
             C.due("20: planOf(" + what + ")", x.planOf(plan, what), want[what]);
         }
-        int empty = drive(x, 5, 8, 0);
+        int empty = Calls.drive(x, 5, 8, 0);
         int[] none = {0, 0, 0, 0, 1};
         for (int what = 0; what < 5; what++) {
             C.due("20: without moves, planOf(" + what + ")", x.planOf(empty, what), none[what]);
         }
-        polygon(x, 5, 8, 6, 8, 6, 9, 5, 9);
+        Calls.polygon(x, 5, 8, 6, 8, 6, 9, 5, 9);
         C.due("20: its pose is not free now", x.planOf(empty, 4), 0);
         C.due("20: nor can the other one be driven", x.planOf(plan, 4), 0);
         C.due("20: it costs as before", x.planOf(plan, 1), 152);
@@ -769,7 +733,7 @@ public final class PromisesTest {
     private static void promise21() {
         Swervewright x = new Swervewright();
         C.index("21: no such plan", () -> x.moveOf(0, 0));
-        int plan = drive(x, 8, 8, 0, 0, 1, 2, 3, 4, 5);
+        int plan = Calls.drive(x, 8, 8, 0, 0, 1, 2, 3, 4, 5);
         for (int at = 0; at < 6; at++) {
             C.due("21: move " + at, x.moveOf(plan, at), at);
         }
@@ -783,9 +747,9 @@ public final class PromisesTest {
     private static void promise22() {
         Swervewright x = new Swervewright();
         C.index("22: no such plan", () -> x.poseOf(0, 0));
-        int plan = drive(x, 8, 8, 0, 0, 1, 2, 3, 4, 5);
-        int[] want = {pose(8, 8, 0), pose(9, 8, 0), pose(11, 7, 7), pose(13, 6, 0), pose(12, 6, 0), pose(10, 5, 1),
-            pose(8, 4, 0)};
+        int plan = Calls.drive(x, 8, 8, 0, 0, 1, 2, 3, 4, 5);
+        int[] want = {Calls.pose(8, 8, 0), Calls.pose(9, 8, 0), Calls.pose(11, 7, 7), Calls.pose(13, 6, 0),
+            Calls.pose(12, 6, 0), Calls.pose(10, 5, 1), Calls.pose(8, 4, 0)};
         for (int at = 0; at < 7; at++) {
             C.due("22: pose " + at, x.poseOf(plan, at), want[at]);
         }
@@ -798,7 +762,7 @@ public final class PromisesTest {
     private static void promise23() {
         Swervewright x = new Swervewright();
         C.index("23: no such plan", () -> x.segment(0, 0));
-        int plan = drive(x, 5, 8, 0, 0, 0, 0, 1, 2, 2, 5, 3, 3, 3);
+        int plan = Calls.drive(x, 5, 8, 0, 0, 0, 0, 1, 2, 2, 5, 3, 3, 3);
         int[] want = {3, 101, 202, 501, 303};
         for (int at = 0; at < want.length; at++) {
             C.due("23: segment " + at, x.segment(plan, at), want[at]);
@@ -807,7 +771,7 @@ public final class PromisesTest {
         C.index("23: not so many", () -> x.segment(plan, 5));
         C.index("23: below", () -> x.segment(plan, -1));
         C.index("23: far out", () -> x.segment(plan, MIN));
-        int empty = drive(x, 5, 8, 0);
+        int empty = Calls.drive(x, 5, 8, 0);
         C.index("23: without moves", () -> x.segment(empty, 0));
         C.index("23: without moves, below", () -> x.segment(empty, -1));
     }
@@ -816,61 +780,61 @@ public final class PromisesTest {
 
     private static void promise24() {
         Swervewright x = new Swervewright();
-        int plan = drive(x, 2, 8, 0, 0, 0, 0, 0);
+        int plan = Calls.drive(x, 2, 8, 0, 0, 0, 0, 0);
         int[][] wrong = {{0, 1, 1, 1}, {10001, 1, 1, 1}, {1, 0, 1, 1}, {1, 10001, 1, 1}, {1, 1, 0, 1}, {1, 1, 1001, 1},
             {1, 1, 1, 0}, {1, 1, 1, 1001}, {MIN, MAX, 1, 1}};
         for (int[] w : wrong) {
             C.argument("24: out of range " + Arrays.toString(w), () -> x.speeds(w[0], w[1], w[2], w[3]));
         }
-        squares("24: nothing changed", x, plan, 0.0f, 4.0f, 8.0f, 6.0f, 0.0f);
+        C.squares("24: nothing changed", x, plan, 0.0f, 4.0f, 8.0f, 6.0f, 0.0f);
         x.speeds(10000, 10000, 1000, 1000);
-        squares("24: the greatest", x, plan, 0.0f, 2000.0f, 4000.0f, 2000.0f, 0.0f);
+        C.squares("24: the greatest", x, plan, 0.0f, 2000.0f, 4000.0f, 2000.0f, 0.0f);
         x.speeds(1, 1, 1, 1);
-        squares("24: the least", x, plan, 0.0f, 1.0f, 1.0f, 1.0f, 0.0f);
+        C.squares("24: the least", x, plan, 0.0f, 1.0f, 1.0f, 1.0f, 0.0f);
     }
 
     private static void promise25() {
         Swervewright x = new Swervewright();
         C.index("25: no such plan", () -> x.speed(0, 0));
-        int even = drive(x, 1, 8, 0, 0, 0, 0, 0, 0, 0);
-        squares("25: even", x, even, 0.0f, 4.0f, 8.0f, 12.0f, 12.0f, 6.0f, 0.0f);
-        int odd = drive(x, 1, 1, 1, 0, 0, 0);
-        squares("25: odd", x, odd, 0.0f, 4.0f * 1.4142135f, 6.0f * 1.4142135f, 0.0f);
-        int cusps = drive(x, 8, 8, 0, 0, 0, 3, 3, 3);
-        squares("25: at cusps", x, cusps, 0.0f, 4.0f, 0.0f, 4.0f, 6.0f, 0.0f);
-        int empty = drive(x, 8, 8, 0);
-        squares("25: without moves", x, empty, 0.0f);
-        int one = drive(x, 8, 8, 0, 1);
-        squares("25: one move", x, one, 0.0f, 0.0f);
+        int even = Calls.drive(x, 1, 8, 0, 0, 0, 0, 0, 0, 0);
+        C.squares("25: even", x, even, 0.0f, 4.0f, 8.0f, 12.0f, 12.0f, 6.0f, 0.0f);
+        int odd = Calls.drive(x, 1, 1, 1, 0, 0, 0);
+        C.squares("25: odd", x, odd, 0.0f, 4.0f * 1.4142135f, 6.0f * 1.4142135f, 0.0f);
+        int cusps = Calls.drive(x, 8, 8, 0, 0, 0, 3, 3, 3);
+        C.squares("25: at cusps", x, cusps, 0.0f, 4.0f, 0.0f, 4.0f, 6.0f, 0.0f);
+        int empty = Calls.drive(x, 8, 8, 0);
+        C.squares("25: without moves", x, empty, 0.0f);
+        int one = Calls.drive(x, 8, 8, 0, 1);
+        C.squares("25: one move", x, one, 0.0f, 0.0f);
         C.index("25: below", () -> x.speed(even, -1));
         C.index("25: far out", () -> x.speed(even, MAX));
         C.index("25: no such plan, below", () -> x.speed(-1, 0));
         x.speeds(9, 25, 2, 3);
-        squares("25: no more than the greatest", x, even, 0.0f, 4.0f, 8.0f, 9.0f, 9.0f, 6.0f, 0.0f);
+        C.squares("25: no more than the greatest", x, even, 0.0f, 4.0f, 8.0f, 9.0f, 9.0f, 6.0f, 0.0f);
     }
 
     private static void speedsWithArcs() {
         Swervewright x = new Swervewright();
         float arc = 1.0f + 1.4142135f;
         x.speeds(100, 25, 2, 3);
-        int plan = drive(x, 1, 8, 0, 0, 1, 2, 0, 0);
-        squares("25: an arc is both its steps long", x, plan, 0.0f, 4.0f, 4.0f + 4.0f * arc, 12.0f, 6.0f, 0.0f);
+        int plan = Calls.drive(x, 1, 8, 0, 0, 1, 2, 0, 0);
+        C.squares("25: an arc is both its steps long", x, plan, 0.0f, 4.0f, 4.0f + 4.0f * arc, 12.0f, 6.0f, 0.0f);
         x.speeds(100, 3, 2, 3);
-        squares("25: arcs are slower", x, plan, 0.0f, 3.0f, 3.0f, 3.0f, 6.0f, 0.0f);
-        int back = drive(x, 12, 8, 1, 5, 3, 3, 4);
+        C.squares("25: arcs are slower", x, plan, 0.0f, 3.0f, 3.0f, 3.0f, 6.0f, 0.0f);
+        int back = Calls.drive(x, 12, 8, 1, 5, 3, 3, 4);
         x.speeds(100, 25, 2, 3);
         float first = 4.0f * arc;
-        squares("25: in reverse", x, back, 0.0f, first, 4.0f + first, 6.0f * arc, 0.0f);
+        C.squares("25: in reverse", x, back, 0.0f, first, 4.0f + first, 6.0f * arc, 0.0f);
     }
 
     private static void promise26() {
         Swervewright x = new Swervewright();
         C.index("26: no such plan", () -> x.peak(0));
-        int plan = drive(x, 1, 1, 1, 0, 0, 0);
+        int plan = Calls.drive(x, 1, 1, 1, 0, 0, 0);
         C.due("26: cut to an int", x.peak(plan), 8);
-        int empty = drive(x, 8, 8, 0);
+        int empty = Calls.drive(x, 8, 8, 0);
         C.due("26: without moves", x.peak(empty), 0);
-        int even = drive(x, 1, 8, 0, 0, 0, 0, 0, 0, 0);
+        int even = Calls.drive(x, 1, 8, 0, 0, 0, 0, 0, 0, 0);
         C.due("26: the greatest", x.peak(even), 12);
         C.due("26: a plan read ahead of it does not matter", x.peak(plan), 8);
         x.speeds(5, 25, 2, 3);

@@ -2,7 +2,9 @@ import java.util.Random;
 
 /** Random runs of calls, the same ones each time, of which every answer is held against the model's. */
 public final class RandomRunsTest {
-    private static final int RUNS = 120;
+    private static final int RUNS = 160;
+    /** What an object answers after so many calls is free. */
+    private static final int MOST_CALLS = 512;
 
     /** An answer as text: a number, a float's bits, or the name of an exception. */
     private interface Answer {
@@ -15,6 +17,7 @@ public final class RandomRunsTest {
     private Model model;
     private int run;
     private int call;
+    private int callsOfObject;
     private boolean isWild;
     private int nearX;
     private int nearY;
@@ -26,20 +29,27 @@ public final class RandomRunsTest {
     private void all() {
         for (run = 0; run < RUNS; run++) {
             random = new Random(1000 + run);
-            it = new Swervewright();
-            model = new Model();
+            beginAnew();
             isWild = run % 4 == 3;
-            int calls = 60 + random.nextInt(240);
-            for (call = 0; call < calls; call++) {
+            int calls = 80 + random.nextInt(MOST_CALLS - 100);
+            while (callsOfObject < calls) {
                 one();
             }
+            shortenPlans();
             readPlans();
             clearField();
+            shortenPlans();
             readPlans();
             walks();
         }
         lanes();
         checks.end();
+    }
+
+    private void beginAnew() {
+        it = new Swervewright();
+        model = new Model();
+        callsOfObject = 0;
     }
 
     private static Object answer(Answer call) {
@@ -64,6 +74,11 @@ public final class RandomRunsTest {
     }
 
     private void same(String what, Answer got, Answer want) {
+        if (callsOfObject >= MOST_CALLS) {
+            return;
+        }
+        callsOfObject++;
+        call++;
         Object due = answer(want);
         Object is = strictAnswer(got);
         checks.dueTrue("run " + run + " call " + call + ": " + what + " (" + is + ", due is " + due + ")", due.equals(is));
@@ -239,8 +254,7 @@ public final class RandomRunsTest {
 
     /** Long drives in the open, with some arcs and cusps, on a new object, for shortening. */
     private void walks() {
-        it = new Swervewright();
-        model = new Model();
+        beginAnew();
         isWild = false;
         int[] s = {random.nextInt(101), random.nextInt(6), random.nextInt(3), random.nextInt(3)};
         same("cusp(" + s[0] + ")", () -> it.cusp(s[0]), () -> model.cusp(s[0]));
@@ -251,20 +265,20 @@ public final class RandomRunsTest {
                 smallPolygon();
             }
             sameDone("begin(8, 8, 0)", () -> it.begin(8, 8, 0), () -> model.begin(8, 8, 0));
-            int tries = 10 + random.nextInt(walk == 0 && run % 10 == 0 ? 300 : 40);
+            int tries = 10 + random.nextInt(walk == 0 && run % 10 == 0 ? 200 : 25);
             for (int tried = 0; tried < tries; tried++) {
                 int move = random.nextInt(4) > 0 ? random.nextInt(3) : random.nextInt(6);
                 same("drive(" + move + ")", () -> it.drive(move), () -> model.drive(move));
             }
             same("keep()", () -> it.keep(), () -> model.keep());
         }
+        shortenPlans();
         readPlans();
     }
 
     /** A plan of a hundred moves between walls, that is shortened when some of them, and then all, are away. */
     private void lanes() {
-        it = new Swervewright();
-        model = new Model();
+        beginAnew();
         sameDone("vehicle(0, 0)", () -> it.vehicle(0, 0), () -> model.vehicle(0, 0));
         for (int wall = 0; wall < 7; wall++) {
             int left = wall % 2 == 0 ? 0 : 3;
@@ -276,15 +290,16 @@ public final class RandomRunsTest {
             same("polygon()", () -> it.polygon(), () -> model.polygon());
         }
         same("plan of lanes", () -> it.plan(0, 0, 0, 0, 14, 0, true), () -> model.plan(0, 0, 0, 0, 14, 0, true));
-        readPlan(0);
+        readPlan(0, 4);
         for (int wall = 0; wall < 3; wall++) {
             int polygon = wall * 2 + 1;
             same("takeAway(" + polygon + ")", () -> it.takeAway(polygon), () -> model.takeAway(polygon));
         }
         same("shorten lanes", () -> it.shorten(0), () -> model.shorten(0));
-        readPlan(0);
+        readPlan(0, 2);
         clearField();
-        readPlans();
+        same("shorten lanes again", () -> it.shorten(0), () -> model.shorten(0));
+        readPlan(0, 1);
     }
 
     private void smallPolygon() {
@@ -297,29 +312,40 @@ public final class RandomRunsTest {
         same("polygon()", () -> it.polygon(), () -> model.polygon());
     }
 
-    /** At a run's end every plan is read whole, shortened, and read again. */
-    private void readPlans() {
+    /** At a run's end every plan is shortened, after its cost is read. */
+    private void shortenPlans() {
         for (int number = 0; number < 13; number++) {
             int plan = number;
-            readPlan(plan);
+            same("planOf(" + plan + ", 1)", () -> it.planOf(plan, 1), () -> model.planOf(plan, 1));
             same("shorten(" + plan + ")", () -> it.shorten(plan), () -> model.shorten(plan));
-            readPlan(plan);
         }
     }
 
-    private void readPlan(int plan) {
+    /** As many plans as there are calls left for, each one whole, from one of chance on. */
+    private void readPlans() {
+        int first = random.nextInt(12);
+        for (int number = 0; number < 12; number++) {
+            readPlan((first + number) % 12, 1);
+        }
+        readPlan(12, 1);
+    }
+
+    private void readPlan(int plan, int stride) {
         for (int what = 0; what < 5; what++) {
             int w = what;
             same("planOf(" + plan + ", " + w + ")", () -> it.planOf(plan, w), () -> model.planOf(plan, w));
         }
         Object count = answer(() -> model.planOf(plan, 0));
         int moves = count instanceof Integer ? (Integer) count : 0;
-        for (int at = 0; at <= moves + 1; at++) {
+        for (int at = moves + 1; at >= 0; at -= stride) {
             int a = at;
-            same("poseOf(" + plan + ", " + a + ")", () -> it.poseOf(plan, a), () -> model.poseOf(plan, a));
             same("moveOf(" + plan + ", " + a + ")", () -> it.moveOf(plan, a), () -> model.moveOf(plan, a));
-            same("segment(" + plan + ", " + a + ")", () -> it.segment(plan, a), () -> model.segment(plan, a));
+            same("poseOf(" + plan + ", " + a + ")", () -> it.poseOf(plan, a), () -> model.poseOf(plan, a));
             same("speed(" + plan + ", " + a + ")", () -> it.speed(plan, a), () -> model.speed(plan, a));
+        }
+        for (int at = 0; at < moves && at < 5 * stride; at += stride) {
+            int a = at;
+            same("segment(" + plan + ", " + a + ")", () -> it.segment(plan, a), () -> model.segment(plan, a));
         }
         same("peak(" + plan + ")", () -> it.peak(plan), () -> model.peak(plan));
     }
