@@ -343,6 +343,9 @@ final class PlanTerms {
         shortened("as dear in steps, and out of reach of the margin", x, 0, new int[] {0, 0, 2, 0, 0}, 0, 0, 0, 2, 0, 0);
         x.margin(3);
         shortened("as dear in steps, but farther away", x, 0, new int[] {0, 0, 2, 0, 0}, 10, 2, 1, 2);
+        x.margin(4);
+        // the ends of 0 1 1 0 are 2, 3, 4 and 4 cells away: 68 and 15; those of 1 0 1 are 2, 3 and 4 away: 62 and 15
+        shortened("from near to far", x, 0, new int[] {0, 1, 1, 0}, 6, 1, 0, 1);
     }
 
     private void shorteningByNoMoves() {

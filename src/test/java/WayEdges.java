@@ -149,6 +149,11 @@ final class WayEdges {
         c.due("back along it", way(promise, x, new int[] {15, 0, 0, 0, 0, 0}, true), 150);
         c.due("from corner to corner", way(promise, x, new int[] {0, 0, 1, 15, 15, 1}, false), 210);
         c.due("in the corner, to another heading, forward", way(promise, x, new int[] {0, 0, 0, 0, 0, 1}, false), NONE);
+        // across a corner of the field every move leads off it
+        c.due("to the last pose of all", way(promise, x, new int[] {8, 8, 0, 15, 15, 7}, true), NONE);
+        c.due("from it", way(promise, x, new int[] {15, 15, 7, 8, 8, 0}, true), NONE);
+        c.due("across the first cell", way(promise, x, new int[] {8, 8, 0, 0, 0, 3}, true), NONE);
+        c.due("from there", way(promise, x, new int[] {0, 0, 7, 8, 8, 0}, true), NONE);
         Calls.polygon(x, 0, 1, 16, 1, 16, 2, 0, 2);
         x.margin(5);
         c.due("beside a wall", way(promise, x, new int[] {0, 0, 0, 15, 0, 0}, false), 15 * (10 + 20));
