@@ -7,6 +7,8 @@ import java.lang.reflect.Modifier;
 import java.nio.file.Files;
 import java.nio.file.Path;
 import java.util.Arrays;
+import java.util.List;
+import java.util.Map;
 import java.util.Set;
 import java.util.TreeSet;
 
@@ -30,6 +32,7 @@ public final class FaceTest {
         constructors();
         classesInside();
         source();
+        documentsForm();
         C.end();
     }
 
@@ -121,6 +124,29 @@ public final class FaceTest {
             }
         }
         machineExceptions(source);
+    }
+
+    /** Each constant, the constructor, and each method with its throws clause stand as in the document, in its order. */
+    private static void documentsForm() throws IOException {
+        String source = Files.readString(Path.of("src/main/java/Swervewright.java")).replaceAll("\\s+", " ");
+        int before = -1;
+        List<String> face = Doc.face();
+        C.due("lines of the face", face.size(), 1 + 2 + 1 + FACE.size());
+        for (String line : face) {
+            String due = line.endsWith(");") || line.contains(" throws ") ? line.replace(";", " {") : line;
+            int found = source.indexOf(due);
+            C.dueTrue("the source has, behind what is ahead of it: " + due, found > before);
+            before = found;
+        }
+        Map<String, String> headings = Doc.headings();
+        C.due("headings", headings.size(), 4);
+        for (Map.Entry<String, String> heading : headings.entrySet()) {
+            String due = "// ---- " + heading.getValue() + " public ";
+            int found = source.indexOf(due);
+            C.dueTrue("the source has: " + due, found >= 0);
+            String behind = source.substring(Math.max(found, 0) + due.length());
+            C.dueTrue(due + " " + heading.getKey(), behind.matches("\\w+ " + heading.getKey() + "\\(.*"));
+        }
     }
 
     /** No call is answered by catching what the machine throws by itself, by its name or by a class above it. */
